@@ -17,6 +17,7 @@ public final class StreetTillTen {
     private static final int[] KIND_ABOVE = {-1, 0, 0, 1, 2, 0};
 
     private static final int SET_YEAR = 0, SET_LIMIT = 1, SET_NUMBER = 2, SET_TABLE = 3;
+    private static final int FIRST_STRENGTH = 10;
     private static final int[] LEAST_SETTING = {0, 1, 0, -1};
     private static final int[] MOST_SETTING = {999, 99, 9, 3};
 
@@ -105,10 +106,8 @@ public final class StreetTillTen {
             case 7: return now.sounds(of);
             default: break;
         }
-        if (what < 10 || what > 17 || !isHouse(what - 10)) {
-            return BAD;
-        }
-        return now.strength[of][what - 10];
+        int other = what - FIRST_STRENGTH;
+        return isHouse(other) ? now.strength[of][other] : BAD;
     }
 
     // ---- texts
@@ -253,7 +252,9 @@ public final class StreetTillTen {
         }
         int best = 0;
         int most = NONE;
-        for (int bits = 0; bits < 1 << now.count; bits++) {
+        // With the last HOUSE at TABLE 1 each way mirrors one of fewer bits, which is as good: they are left out.
+        int ways = now.count > 0 ? 1 << (now.count - 1) : 1;
+        for (int bits = 0; bits < ways; bits++) {
             thought.become(now);
             for (int house = 0; house < now.count; house++) {
                 thought.table[house] = bits >> house & 1;
@@ -665,6 +666,7 @@ public final class StreetTillTen {
             this.rule = rule;
         }
 
+        /** Places beyond the last HOUSE, too: so one that comes finds STRENGTH 0 there, as at first. */
         void become(Street other) {
             year = other.year;
             limit = other.limit;
@@ -685,10 +687,6 @@ public final class StreetTillTen {
             kind[count] = newKind;
             number[count] = newNumber;
             table[count] = NONE;
-            // One that came and went with back() may have left its STRENGTHS here.
-            for (int other = 0; other <= count; other++) {
-                tie(count, other, 0);
-            }
             count++;
         }
 
@@ -1077,7 +1075,7 @@ public final class StreetTillTen {
     /** THE TAPE, and the TOKENS that stand on it. */
     private static final class Tape {
         static final int ROOM = 160;
-        // Signs are tokens by their own letter; the others lie above all letters.
+        // A letter of no word or number is a token by itself, be it a sign or not; the others lie above all letters.
         static final int END = 300, STRANGE = 301, NUMBER = 302, NAME = 303;
         static final int MEETS = 304, FADES = 305, SOUNDS = 306, OR = 307, AND = 308, NOT = 309;
         private static final int MOST_DIGITS = 4;
@@ -1115,19 +1113,14 @@ public final class StreetTillTen {
                     tokens[i] = END;
                     return;
                 }
-                cutOne(i);
-            }
-        }
-
-        private void cutOne(int i) {
-            int letter = letters[at];
-            if (isDigit(letter)) {
-                cutNumber(i);
-            } else if (isSmall(letter)) {
-                cutWord(i);
-            } else {
-                tokens[i] = isSign(letter) ? letter : STRANGE;
-                at++;
+                if (isDigit(letters[at])) {
+                    cutNumber(i);
+                } else if (isSmall(letters[at])) {
+                    cutWord(i);
+                } else {
+                    tokens[i] = letters[at];
+                    at++;
+                }
             }
         }
 
@@ -1208,13 +1201,6 @@ public final class StreetTillTen {
 
         private static boolean isSmall(int letter) {
             return letter >= 'a' && letter <= 'z';
-        }
-
-        private static boolean isSign(int letter) {
-            switch (letter) {
-                case '(': case ')': case ';': case '+': case '-': case '*': case '<': case '=': return true;
-                default: return false;
-            }
         }
     }
 

@@ -27,10 +27,27 @@ public final class BestTest {
         Due.is("16: of three like ones the first", x.best(1, 2, 0), 1);
         Due.is("16: in thought", x.told(1, 3) + 10 * x.street(3) + 10 * x.count(2), 3);
         Due.is("16: n 20", x.best(0, 20, 1), 3);
+        fourTablesAlone();
         StreetTillTen y = Due.street(2, 2);
         y.bind(0, 1, 30);
         Due.is("16: all alike", y.best(0, 1, 0), 0);
         Due.is("16: all alike, FRIENDS", y.best(0, 1, 1), 1);
+    }
+
+    /** To sit alone would be best, but there is a guest at each of the four TABLES. */
+    private static void fourTablesAlone() {
+        StreetTillTen x = Due.street(0, 1, 2, 3, Due.NONE);
+        x.force(Due.text(x, "meets 0;fades 10 * (1 < seats);sounds 0;"));
+        x.bind(0, 4, 45);
+        x.bind(3, 4, 35);
+        x.bind(1, 2, 35);
+        Due.is("16: the guests of TABLE 0 are the last to be forgotten", x.best(4, 1, 0), 0);
+        x.bind(0, 1, 25);
+        Due.is("16: the guest of TABLE 2 has a friend to spare", x.best(4, 1, 0), 2);
+        Due.is("16: FRIENDS with that one", x.best(4, 1, 1), 4);
+        x.bind(2, 3, 25);
+        Due.is("16: no TABLE beyond 3", x.best(4, 1, 0), 0);
+        Due.is("16: FRIENDS at one of four", x.best(4, 1, 1), 4);
     }
 
     private static void bestBad() {
@@ -63,6 +80,14 @@ public final class BestTest {
         y.bind(0, 1, 25);
         Due.is("17: not with one that isn't there", y.change(3, 0), Due.NONE);
         Due.is("17: as so, behind n YEARS", y.change(3, 1), 0);
+        y.bind(0, 1, 24);
+        y.bind(1, 2, 15);
+        y.set(3, 2, 0);
+        Due.is("17: nor if that would help", y.change(1, 0), Due.NONE);
+        Due.is("17: as so, though that would help", y.change(1, 1), 1);
+        StreetTillTen next = Due.street(0, 1, 0);
+        next.bind(1, 2, 18);
+        Due.is("17: HOUSES next to each other", next.change(1, 0), 1);
         StreetTillTen z = Due.street(0, 0, 1);
         z.bind(0, 1, 20);
         z.bind(1, 2, 20);
@@ -178,6 +203,10 @@ public final class BestTest {
         Due.is("20: as now, 1", y.match(1), 1);
         Due.is("20: what -1", y.match(-1), Due.BAD);
         Due.is("20: what 2", y.match(2), Due.BAD);
+        StreetTillTen three = Due.street(0, 0, 0);
+        three.bind(0, 2, 20);
+        Due.is("20: KNOWING goes both ways", three.match(0), 1);
+        Due.is("20: by the lesser one", three.match(1), 2);
         StreetTillTen two = Due.street(0, 0);
         Due.is("20: 0 and 1", two.match(0), 1);
         Due.is("20: from 9 to 1", two.match(1), 1);

@@ -62,6 +62,7 @@ public final class HostTest {
         Due.is("28: is missing", x.cell(3, 0, 5), Due.NOTHING);
         Due.is("28: missing, n -9", x.sheet(3, -1, -9), 1);
         x.sheet(0, 0, 2);
+        x.cell(0, 0, 9);
         x.cell(0, 1, 9);
         x.sheet(0, 0, 2);
         holds("28: all 0", x, 0, 0, 0);

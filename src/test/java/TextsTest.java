@@ -39,6 +39,19 @@ public final class TextsTest {
         Due.is("7: THE TAPE is empty by a FAULT, too", x.count(4), 0);
         Due.is("7: no TEXT by a FAULT", x.count(3), 2);
         Due.is("7: the second", Due.text(x, "\nmeets1;fades\n2;sounds 3 ;\n "), 2);
+        Due.is("7: letters of a longer TAPE", Due.text(x, "aaaaaaaaaaaaaaaa"), -100);
+        Due.is("7: they are gone", Due.text(x, "meets"), -105);
+        Due.is("7: digits of a longer TAPE", Due.text(x, "1111111111111111"), -100);
+        Due.is("7: they are gone, too", Due.text(x, "meets 4"), -107);
+        Due.is("7: a FAULT far on", Due.text(x, "meets 9;fades 8;sounds 7;5"), -125);
+        Due.is("7: a TEXT behind a FAULT", Due.text(x, "meets 1;fades 2;sounds 3;"), 3);
+        x.house(0, 0);
+        x.house(0, 0);
+        x.force(3);
+        Due.is("7: its meets", x.asks(0, 1, 0), 1);
+        Due.is("7: its fades", x.asks(0, 1, 1), 2);
+        Due.is("7: its sounds", x.told(0, 7), 3);
+        x.force(0);
         Due.is("7: THE RULE stays", x.count(5), 0);
     }
 
@@ -105,6 +118,21 @@ public final class TextsTest {
         fault("meets 1);", 7);
         fault("meets ();", 7);
         fault("meets 5 fades 5;", 8);
+        fault("meets meets;", 6);
+        fault("meets 1 + sounds;", 10);
+        fault("meets 1 sounds 2;", 8);
+        fault("meets 1;sounds 1;", 8);
+        fault("meets 1;fades 1;or 1;", 16);
+        fault("meets 1;fades 1;fades 1;", 16);
+        fault("geets 5;", 0);
+        fault("meetsz 5;", 0);
+        fault("ameets 5;", 0);
+        fault("meets sea;", 6);
+        fault("meets 5a;", 7);
+        fault("meets 5 5;", 8);
+        fault(";".repeat(160), 0);
+        fault("5".repeat(160), 0);
+        fault("meets " + "(".repeat(154), 11);
         fault("meets \t5;", 6);
         fault("meets 5\r;", 7);
         fault("meets \0;", 6);

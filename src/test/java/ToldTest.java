@@ -134,6 +134,11 @@ public final class ToldTest {
         x.bind(1, 3, 99);
         Due.is("21: up to 99", x.tells(0, 1, 5), 49);
         Due.is("21: LIMIT is as it was", x.told(0, 1), 99);
+        x.bind(1, 0, 98);
+        x.bind(1, 2, 98);
+        Due.sheet(x, 0, 0, 0, 0, 0, 20);
+        Due.is("21: 99 alone", x.tells(0, 1, 5), 1);
+        Due.is("21: the least is 99", x.tells(0, 1, 6), 99);
     }
 
     private static void tellsBad() {
@@ -208,6 +213,7 @@ public final class ToldTest {
 
     private static void chance() {
         StreetTillTen x = Due.street(0, 1, 2, 3, 0, Due.NONE, Due.NONE);
+        x.set(1, 0, 18);
         int[] seeds = {1, -9, Integer.MAX_VALUE - 3};
         for (int seed : seeds) {
             for (int m = 1; m <= 20; m++) {
@@ -216,6 +222,7 @@ public final class ToldTest {
                 }
             }
         }
+        chanceOfYears();
         Due.is("24: none", x.chance(0, 20, 28, 0), 0);
         Due.is("24: none, of 1", x.chance(0, 20, 28, 1), 1);
         Due.is("24: all", x.chance(0, 20, 0, 0), 1);
@@ -227,10 +234,21 @@ public final class ToldTest {
         }
     }
 
+    /** Three YEARS, no fewer and no more: 30 becomes 18, wherever the two sit. */
+    private static void chanceOfYears() {
+        StreetTillTen x = Due.street(0, 0);
+        x.force(Due.text(x, "meets 0;fades 2;sounds 0;"));
+        x.bind(0, 1, 30);
+        x.set(1, 0, 18);
+        Due.is("24: behind three YEARS", x.chance(5, 1, 1, 0), 1);
+        x.set(1, 0, 19);
+        Due.is("24: not behind two", x.chance(5, 1, 1, 0), 0);
+    }
+
     private static void chance(StreetTillTen x, int seed, int m, int k) {
         int of = 0;
         for (int i = 0; i < m; i++) {
-            if (friendsOf(seed + i, 3, 7, 20) >= k) {
+            if (friendsOf(seed + i, 3, 7, 18) >= k) {
                 of++;
             }
         }

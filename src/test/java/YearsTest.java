@@ -176,6 +176,7 @@ public final class YearsTest {
         for (int what = 0; what < 6; what++) {
             Due.is("12: no HOUSES, what " + what, none.street(what), due[what]);
         }
+        Due.is("12: one alone", Due.street(0).street(2), 1);
         StreetTillTen row = Due.street(0, 0, 0, 0, 0, 0, 0, 0);
         for (int i = 0; i < 7; i++) {
             row.bind(i, i + 1, 20);
