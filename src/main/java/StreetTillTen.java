@@ -1108,7 +1108,6 @@ public final class StreetTillTen {
                     at++;
                 }
                 starts[i] = at;
-                steps[i] = 0;
                 if (at >= size) {
                     tokens[i] = END;
                     return;
