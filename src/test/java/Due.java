@@ -1,3 +1,6 @@
+import java.util.function.Supplier;
+import java.util.function.ToLongFunction;
+
 /** Counts answers that are not as due, and ends a test by them. */
 final class Due {
     static final int NONE = -1, BAD = -2, STATE = -3, FULL = -4;
@@ -16,6 +19,18 @@ final class Due {
             wrong++;
             System.out.println(call + " answered " + got + ", due is " + want);
         }
+    }
+
+    /** A call on an object so made answers this, and changes nothing that can be seen. */
+    static void idle(String call, Supplier<StreetTillTen> made, ToLongFunction<StreetTillTen> on, long want) {
+        StreetTillTen x = made.get();
+        is(call, on.applyAsLong(x), want);
+        is(call + " leaves all as it was", Seen.of(x).equals(Seen.of(made.get())) ? 1 : 0, 1);
+    }
+
+    /** A call on a busy street answers this, and changes nothing that can be seen. */
+    static void idle(String call, ToLongFunction<StreetTillTen> on, long want) {
+        idle(call, Streets::busy, on, want);
     }
 
     static void end() {
