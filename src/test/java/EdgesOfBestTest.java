@@ -27,6 +27,7 @@ public final class EdgesOfBestTest {
         matchBad();
         matchOfFew();
         matchOfStrangers();
+        matchBothWays();
         matchIfLess();
         matchOfLikeOnes();
         Due.end();
@@ -430,6 +431,22 @@ public final class EdgesOfBestTest {
         }
         Due.is("20: the first of a row of seven that is no end", y.match(0), 17);
         Due.is("20: 6 then", y.match(1), 6);
+    }
+
+    /** 0 KNOWS 2: from 0 to 1 it is by 2 then, from the greater to the lesser. */
+    private static void matchBothWays() {
+        StreetTillTen x = Streets.away(3);
+        x.bind(0, 2, 20);
+        Due.is("20: 0 and 1, or 1 and 2", x.match(0), 1);
+        x.house(0, 0);
+        x.bind(0, 3, 20);
+        Due.is("20: 0 keeps 2 and 3, so 1 comes to 0", x.match(0), 1);
+        Due.is("20: 2 then", x.match(1), 2);
+        StreetTillTen y = Streets.away(4);
+        y.bind(0, 3, 20);
+        y.bind(3, 2, 20);
+        Due.is("20: 3 keeps 0 and 2, so 1 comes to 3", y.match(0), 13);
+        Due.is("20: 2 then, too", y.match(1), 2);
     }
 
     private static void matchIfLess() {

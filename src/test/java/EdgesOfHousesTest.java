@@ -332,9 +332,9 @@ public final class EdgesOfHousesTest {
         x.set(2, 2, 9);
         String[] others = {"strength", "other", "apart"};
         for (int i = 0; i < 3; i++) {
-            x.force(Due.text(x, "meets 1;fades 1;sounds " + others[i] + ";"));
+            x.force(Due.text(x, "meets 1;fades 1;sounds 7 * (" + others[i] + " = 0);"));
             for (int of = 0; of < 3; of++) {
-                Due.is("5: SOUNDS: " + others[i] + " is 0, of " + of, x.told(of, 7), 0);
+                Due.is("5: SOUNDS: " + others[i] + " is 0, of " + of, x.told(of, 7), 7);
             }
         }
         x.force(Due.text(x, "meets 1;fades 1;sounds 10 * number + seats;"));

@@ -15,11 +15,14 @@ public final class EdgesOfTextsTest {
         blanks();
         digits();
         words();
+        eachLetter();
         keysAreNoNames();
         endsTooEarly();
         cannotStandThere();
         theFirstFault();
         faultAtTheLastBytes();
+        tapeOfTokens();
+        nothingIsLeft();
         openAtMost();
         openTillItEnds();
         sixthOpen();
@@ -229,12 +232,43 @@ public final class EdgesOfTextsTest {
         fine("meets 1or 1and 1;fades not(1)or not-1;sounds-1<year;");
     }
 
+    /** Each WORD, with any one letter changed or gone, is neither KEY nor NAME. */
+    private static void eachLetter() {
+        String text = "meets strength+number+other;fades seats+year+apart;sounds not 1 or 1 and 1;";
+        fine(text);
+        for (int at = 0; at < text.length(); at++) {
+            if (text.charAt(at) < 'a') {
+                continue;
+            }
+            int first = at;
+            while (first > 0 && text.charAt(first - 1) >= 'a') {
+                first--;
+            }
+            char other = text.charAt(at) == 'z' ? 'a' : (char) (text.charAt(at) + 1);
+            fault(text.substring(0, at) + other + text.substring(at + 1), first);
+            fault(text.substring(0, at) + text.substring(at + 1), first);
+            fault(text.substring(0, at) + "x" + text.substring(at), first);
+        }
+    }
+
     private static void keysAreNoNames() {
         String[] keys = {"meets", "fades", "sounds", "or", "and"};
         for (String key : keys) {
             fault("meets " + key + ";", 6);
             fault("meets 1 + " + key + ";", 10);
             fault("meets (" + key + ");", 7);
+        }
+        for (String key : new String[] {"meets", "fades", "sounds", "not"}) {
+            fault("meets 1 " + key + " 1;fades 1;sounds 1;", 8);
+        }
+        for (String key : new String[] {"meets", "fades", "or", "and", "not", "year"}) {
+            fault("meets 1;fades 1;" + key + " 1;", 16);
+        }
+        for (String key : new String[] {"meets", "sounds", "or", "and", "not", "year"}) {
+            fault("meets 1;" + key + " 1;sounds 1;", 8);
+        }
+        for (String key : new String[] {"fades", "sounds", "or", "and", "not", "year"}) {
+            fault(key + " 1;fades 1;sounds 1;", 0);
         }
         fault("meets not;", 9);
         String[] names = {"strength", "number", "other", "seats", "year", "apart"};
@@ -330,6 +364,40 @@ public final class EdgesOfTextsTest {
         fine(blanks(135) + text);
         StreetTillTen x = new StreetTillTen();
         Due.is("7: a byte that has no room is no part of it", Due.text(x, blanks(136) + text), -260);
+    }
+
+    /** As many TOKENS as there is room for bytes. */
+    private static void tapeOfTokens() {
+        fault(";".repeat(160), 0);
+        fault("%".repeat(160), 0);
+        fault("(".repeat(160), 0);
+        fault("5".repeat(160), 0);
+        fault("a".repeat(160), 0);
+        fault("meets 5" + ";".repeat(153), 8);
+        fault("meets " + "(".repeat(154), 11);
+        fault("meets " + "-".repeat(154), 11);
+        fault("meets 1" + "-1".repeat(76) + ";", 160);
+        fault("meets 1;fades 1;sounds 1" + "-1".repeat(68), 160);
+        fine("meets 1;fades 1;sounds 1" + "-1".repeat(67) + " ;");
+    }
+
+    /** What is read of a TEXT ahead of its FAULT is no part of the next one. */
+    private static void nothingIsLeft() {
+        String[] faults = {
+            "%", "meets", "meets 9", "meets 9;fades 9;sounds 9;;", "meets 1;fades 1;sounds -1 %", "meets 1;fades 1;sounds not 1 %",
+            "meets 1;fades 1;sounds 1+1+1+1+1+1+1+1 %", "meets 9*9*9*9*9*9*9*9 %", "meets ((((1 %", "meets 12345", "meets aaaaaaaaaaaa",
+        };
+        for (String f : faults) {
+            StreetTillTen x = Due.street(0, 0);
+            Due.is("7: a FAULT: " + f, Due.text(x, f) <= -100 ? 1 : 0, 1);
+            Due.is("7: a TEXT behind " + f, Due.text(x, "meets 3;fades 4;sounds 5;"), 1);
+            x.force(1);
+            Due.is("7: meets behind " + f, x.asks(0, 1, 0), 3);
+            Due.is("7: fades behind " + f, x.asks(0, 1, 1), 4);
+            Due.is("7: sounds behind " + f, x.told(0, 7), 5);
+            x.force(0);
+            Due.is("7: TEXT 0 behind " + f, x.asks(0, 1, 0), 5);
+        }
     }
 
     // ---- 7: what is open
@@ -437,6 +505,17 @@ public final class EdgesOfTextsTest {
         is("3 = 4", 0);
         is("5 = 4", 0);
         is("(4 = 4) + (3 < 4)", 2);
+        // What isn't true is 0, what is true is 1.
+        is("(0 or 0) + 5", 5);
+        is("(0 and 7) + 5", 5);
+        is("(not 7) + 5", 5);
+        is("(4 < 4) + 5", 5);
+        is("(3 = 4) + 5", 5);
+        is("(7 or 0) + 5", 6);
+        is("(7 and 9) + 5", 6);
+        is("(not 0) + 5", 6);
+        is("(4 < 9) + 5", 6);
+        is("(4 = 4) + 5", 6);
     }
 
     private static void order() {
