@@ -23,9 +23,14 @@ final class Due {
 
     /** A call on an object so made answers this, and changes nothing that can be seen. */
     static void idle(String call, Supplier<StreetTillTen> made, ToLongFunction<StreetTillTen> on, long want) {
+        is(call, on.applyAsLong(made.get()), want);
+        is(call + " leaves all as it was", Seen.of(() -> behind(made, on)).equals(Seen.of(made)) ? 1 : 0, 1);
+    }
+
+    private static StreetTillTen behind(Supplier<StreetTillTen> made, ToLongFunction<StreetTillTen> on) {
         StreetTillTen x = made.get();
-        is(call, on.applyAsLong(x), want);
-        is(call + " leaves all as it was", Seen.of(x).equals(Seen.of(made.get())) ? 1 : 0, 1);
+        on.applyAsLong(x);
+        return x;
     }
 
     /** A call on a busy street answers this, and changes nothing that can be seen. */

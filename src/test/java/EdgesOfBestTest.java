@@ -267,17 +267,18 @@ public final class EdgesOfBestTest {
     private static void splitIsIdle() {
         for (int n = 0; n <= 2; n++) {
             int years = n;
-            int[] due = splitOf(Streets.busy(), n);
+            int[] due = splitOf(n);
             Due.idle("18: in thought, n " + n, y -> y.split(years, 0), due[0]);
             Due.idle("18: FRIENDS in thought, n " + n, y -> y.split(years, 1), due[1]);
         }
     }
 
-    /** By what truly would be if all sat so. The object's TABLES are changed by it. */
-    private static int[] splitOf(StreetTillTen x, int n) {
+    /** By what truly would be if all five sat so. */
+    private static int[] splitOf(int n) {
         int[] best = {0, -1};
-        for (int bits = 0; bits < 1 << x.count(0); bits++) {
-            for (int house = 0; house < x.count(0); house++) {
+        for (int bits = 0; bits < 1 << 5; bits++) {
+            StreetTillTen x = Streets.busy();
+            for (int house = 0; house < 5; house++) {
                 x.set(3, house, (bits & 1 << house) == 0 ? 0 : 1);
             }
             int friends = x.run(n, 0);

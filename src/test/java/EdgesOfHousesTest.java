@@ -61,10 +61,12 @@ public final class EdgesOfHousesTest {
     /** Nothing of one object is another one's. */
     private static void newIsOfItsOwn() {
         StreetTillTen first = new StreetTillTen();
-        java.util.List<Long> as = Seen.of(new StreetTillTen());
+        StreetTillTen alone = new StreetTillTen();
+        java.util.List<Long> as = Seen.of(() -> alone);
         Streets.full().feast();
-        Due.is("1: an object that was there before", Seen.of(first).equals(as) ? 1 : 0, 1);
-        Due.is("1: an object that is made later", Seen.of(new StreetTillTen()).equals(as) ? 1 : 0, 1);
+        StreetTillTen last = new StreetTillTen();
+        Due.is("1: an object that was there before", Seen.of(() -> first).equals(as) ? 1 : 0, 1);
+        Due.is("1: an object that is made later", Seen.of(() -> last).equals(as) ? 1 : 0, 1);
     }
 
     // ---- 2

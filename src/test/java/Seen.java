@@ -1,26 +1,36 @@
 import java.util.ArrayList;
 import java.util.List;
+import java.util.function.Consumer;
+import java.util.function.Supplier;
 
-/** All that can be seen of an object, in a row of answers. The object is used up by it: it is no longer as it was. */
+/**
+ * All that can be seen of an object, in a row of answers. Looking changes it, and nothing is promised of it after its
+ * 512th call: so each look is at another one, made alike.
+ */
 final class Seen {
     private final StreetTillTen x;
-    private final List<Long> answers = new ArrayList<>();
+    private final List<Long> answers;
 
-    private Seen(StreetTillTen x) {
+    private Seen(StreetTillTen x, List<Long> answers) {
         this.x = x;
+        this.answers = answers;
     }
 
-    static List<Long> of(StreetTillTen x) {
-        Seen seen = new Seen(x);
-        seen.street();
-        seen.sheets();
-        int kept = x.back();
-        seen.note(kept);
-        seen.street();
-        seen.items(kept);
-        // Last, as it may lay another rule, and as a TEXT that is read can't be taken back.
-        seen.texts();
-        return seen.answers;
+    static List<Long> of(Supplier<StreetTillTen> made) {
+        List<Long> answers = new ArrayList<>();
+        look(made, answers, Seen::street);
+        look(made, answers, Seen::sheets);
+        for (int sheet = 0; sheet < 4; sheet++) {
+            int of = sheet;
+            look(made, answers, seen -> seen.items(of));
+        }
+        look(made, answers, Seen::image);
+        look(made, answers, Seen::texts);
+        return answers;
+    }
+
+    private static void look(Supplier<StreetTillTen> made, List<Long> answers, Consumer<Seen> part) {
+        part.accept(new Seen(made.get(), answers));
     }
 
     private void note(long answer) {
@@ -32,7 +42,8 @@ final class Seen {
             note(x.count(what));
         }
         note(x.told(0, 1));
-        for (int of = 0; of < x.count(0); of++) {
+        int houses = x.count(0);
+        for (int of = 0; of < houses; of++) {
             for (int what = 2; what < 5; what++) {
                 note(x.told(of, what));
             }
@@ -46,11 +57,18 @@ final class Seen {
     /** What each SHEET is, and how many items it has. */
     private void sheets() {
         for (int sheet = 0; sheet < 4; sheet++) {
-            for (int sort = 0; sort < 3; sort++) {
-                note(x.houses(sheet, sort, 0, 0));
-            }
+            note(sortOf(sheet));
             note(sizeOf(sheet));
         }
+    }
+
+    /** NONE, if it is missing. */
+    private int sortOf(int sheet) {
+        int sort = 2;
+        while (sort >= 0 && x.houses(sheet, sort, 0, 0) != 0) {
+            sort--;
+        }
+        return sort;
     }
 
     private int sizeOf(int sheet) {
@@ -61,23 +79,24 @@ final class Seen {
         return size;
     }
 
-    /** Items are seen by the HOUSES that come by them, if there is room for one. */
-    private void items(int kept) {
-        if (kept < 0) {
+    /** The first nine, by the HOUSES that come by them, if there is room for one. */
+    private void items(int sheet) {
+        if (x.back() < 0) {
             x.image();
         }
-        for (int sheet = 0; sheet < 4; sheet++) {
-            int size = sizeOf(sheet);
-            for (int sort = 0; sort < 3; sort++) {
-                for (int from = 0; from + 1 < size && from < 8; from++) {
-                    x.back();
-                    note(x.houses(sheet, sort, from, 1));
-                    note(x.told(x.count(0) - 1, 4));
-                    note(x.told(x.count(0) - 1, 2));
-                }
-            }
+        int sort = sortOf(sheet);
+        int size = sizeOf(sheet);
+        for (int from = 0; from + 1 < size && from < 8; from++) {
+            x.back();
+            note(x.houses(sheet, sort, from, 1));
+            note(x.told(x.count(0) - 1, 4));
+            note(x.told(x.count(0) - 1, 2));
         }
-        x.back();
+    }
+
+    private void image() {
+        note(x.back());
+        street();
     }
 
     /** THE TAPE, by what it comes to with this behind it; and what each TEXT tells. */

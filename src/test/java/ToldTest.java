@@ -212,10 +212,9 @@ public final class ToldTest {
     }
 
     private static void chance() {
-        StreetTillTen x = Due.street(0, 1, 2, 3, 0, Due.NONE, Due.NONE);
-        x.set(1, 0, 18);
         int[] seeds = {1, -9, Integer.MAX_VALUE - 3};
         for (int seed : seeds) {
+            StreetTillTen x = seven();
             for (int m = 1; m <= 20; m++) {
                 for (int k = 0; k < 8; k++) {
                     chance(x, seed, m, k);
@@ -223,6 +222,7 @@ public final class ToldTest {
             }
         }
         chanceOfYears();
+        StreetTillTen x = seven();
         Due.is("24: none", x.chance(0, 20, 28, 0), 0);
         Due.is("24: none, of 1", x.chance(0, 20, 28, 1), 1);
         Due.is("24: all", x.chance(0, 20, 0, 0), 1);
@@ -232,6 +232,12 @@ public final class ToldTest {
         for (int[] b : no) {
             Due.is("24: chance(0, " + b[0] + ", " + b[1] + ", " + b[2] + ")", x.chance(0, b[0], b[1], b[2]), Due.NO);
         }
+    }
+
+    private static StreetTillTen seven() {
+        StreetTillTen x = Due.street(0, 1, 2, 3, 0, Due.NONE, Due.NONE);
+        x.set(1, 0, 18);
+        return x;
     }
 
     /** Three YEARS, no fewer and no more: 30 becomes 18, wherever the two sit. */
